@@ -1214,7 +1214,7 @@ public final class KaleidoscopeBox {
 
         /** The regions of a colour; of all of them for 0. */
         int countRegions(Layout layout, int colour) {
-            Arrays.fill(isReached, false);
+            forgetReached();
             int regions = 0;
             for (int cell = 0; cell < CELLS; cell++) {
                 boolean belongs = colour == 0 ? colours[cell] > 0 : colours[cell] == colour;
@@ -1230,8 +1230,14 @@ public final class KaleidoscopeBox {
             if (colourOf(cell) <= 0) {
                 return 0;
             }
-            Arrays.fill(isReached, false);
+            forgetReached();
             return spread(layout, cell);
+        }
+
+        private void forgetReached() {
+            for (int cell = 0; cell < CELLS; cell++) {
+                isReached[cell] = false;
+            }
         }
 
         private int spread(Layout layout, int start) {
