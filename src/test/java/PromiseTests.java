@@ -200,6 +200,15 @@ public final class PromiseTests {
         error("angle 60 radius 3; stone 1 1 0 0;", 1, 19);
         error("angle 60 radius 3; angle 60", 1, 19);
         error("angle 60 radius 3; gla", 1, 19);
+        error("angle 60 radius 3; glassz 1 1 0 0;", 1, 19);
+        error("angle 60 radius 3; bin 1 1 0 0;", 1, 19);
+        error("angle 60 radius 3; pit 1 1 0 0;", 1, 19);
+        error("angle 60 radius 3; cower 1;", 1, 19);
+        error("angle 60 radius 3; do 1;", 1, 19);
+        error("angle 60 radius 3; keeps 1;", 1, 19);
+        error("tangle 60 radius 3;", 1, 0);
+        error("angle 60 Radius 3;", 1, 9);
+        error("angle 60 diameter 3;", 1, 9);
         error("angle 60 radius 3; glass!", 1, 24);
         error("angle 60 radius 3; gl\u00e9", 1, 19);
         error("angle 60 radius 3; \u00e9", 1, 19);
@@ -560,9 +569,13 @@ public final class PromiseTests {
         KaleidoscopeBox b = Due.of("angle 180 radius 3; pin 5 1 0 1; pin 5 1 1 2; pin 5 1 3 2; pin 6 1 2 1;"
             + "pin 7 1 -3 0; pin 7 1 -2 1;");
         DUE.is("P20 two", 2, b.regionSize(0, 1));
+        DUE.is("P20 asked again", 2, b.regionSize(0, 1));
         DUE.is("P20 two", 2, b.regionSize(1, -2));
         DUE.is("P20 one", 1, b.regionSize(3, 2));
         DUE.is("P20 across the mirror", 3, b.regionSize(-2, -1));
+        b.paint(4, 1);
+        b.paint(5, 1);
+        DUE.is("P20 colour 1", 3, b.regionSize(-2, -1));
         DUE.is("P20 no colour", 0, b.regionSize(0, 0));
         DUE.is("P20 no colour has no region", 0, b.regionSize(3, 3));
         DUE.refuses("P20 outside", INDEX, () -> b.regionSize(4, 0));
@@ -757,6 +770,7 @@ public final class PromiseTests {
         DUE.refuses("P30 colour 0", ARGUMENT, () -> b.paint(0, 0));
         DUE.refuses("P30 colour 10, ahead of the reason", ARGUMENT, () -> b.paint(1, 10));
         DUE.is("P30 9", 4, b.paint(0, 9));
+        DUE.is("P30 1", 4, b.paint(0, 1));
     }
 
     private static void turn() {
@@ -810,6 +824,17 @@ public final class PromiseTests {
         DUE.is("P32 straight down is no rolling", 0, odd.count(13));
         odd.tick();
         DUE.is("P32 the other way round if TICKS is odd", -1, odd.chip(1, 3));
+        for (int ticks = 0; ticks < 6; ticks++) {
+            KaleidoscopeBox late = Due.of(beads + "glass 1 1 2 0; pin 1 1 0 2;");
+            late.take(1);
+            for (int i = 0; i < ticks; i++) {
+                late.push(2, 2);
+                late.tick();
+            }
+            late.add(1, 1, 1, 0, 1);
+            late.tick();
+            DUE.is("P32 where it rolls after " + ticks, ticks % 2 == 0 ? 1 : -1, late.chip(4, 3));
+        }
         KaleidoscopeBox blocked = Due.of(beads + "pin 1 1 1 0;");
         blocked.tick();
         DUE.is("P32 the second one if the first one is full", -1, blocked.chip(1, 3));
@@ -965,6 +990,7 @@ public final class PromiseTests {
         b.turn(4);
         DUE.is("P38 as told", 1, b.settle());
         DUE.is("P38 at rest", 0, b.settled(0, 0));
+        DUE.is("P38 moves before do not count", 0, b.settled(0, 1));
         DUE.is("P38 back", 3, b.settled(4, 0));
         DUE.refuses("P38 steps 8", ARGUMENT, () -> b.settled(8, 0));
         DUE.refuses("P38 steps -1", ARGUMENT, () -> b.settled(-1, 0));
@@ -1021,6 +1047,11 @@ public final class PromiseTests {
         DUE.is("P40 taken out", 2, h.period(3));
         DUE.refuses("P40 0", ARGUMENT, () -> b.period(0));
         DUE.refuses("P40 8", ARGUMENT, () -> b.period(8));
+        KaleidoscopeBox most = Due.of("angle 90 radius 4; down 4; pin 1 2 3 2; glass 2 1 0 3; glass 3 9 0 0;");
+        DUE.is("P40 48", 48, most.period(5));
+        KaleidoscopeBox more = Due.of("angle 180 radius 5; down 0; glass 1 4 5 2; glass 2 8 5 0; bead 3 6 4 0;"
+            + "bubble 4 8 -5 5; glass 6 8 5 1;");
+        DUE.is("P40 52 is above 48", NONE, more.period(2));
         KaleidoscopeBox swap = Due.of("angle 180 radius 1; down 4; bead 1 1 -1 0; bead 2 1 -1 1;");
         DUE.is("P40 the chips have to be the same ones", swap.period(4), periodByHand(swap, 4));
     }
