@@ -1,3 +1,5 @@
+import java.util.function.Supplier;
+
 /** The promises of what would be, of the output, of undo and of saved states. */
 final class PromisedAnswers extends Sentences {
     /** Everything in it can be told apart behind each act; chip 3 is out of the box. */
@@ -62,6 +64,15 @@ final class PromisedAnswers extends Sentences {
             is(0, b.restsAt(3, true));
             b.push(1, 2);
             is(1, b.restsAt(1, true));
+            for (int ticks = 0; ticks <= 3; ticks++) {
+                KaleidoscopeBox late = box("angle 180 radius 2; down 6; pin 9 1 0 0; glass 1 1 -2 0;");
+                for (int i = 0; i < ticks; i++) {
+                    late.push(1, 2);
+                    late.tick();
+                }
+                late.add(1, 1, 1, 0, 1);
+                is(ticks % 2 == 0 ? 1 : -1, late.restsAt(2, false));
+            }
         });
         test("Throws `IndexOutOfBoundsException` if there is no such chip", () -> {
             KaleidoscopeBox b = box("angle 180 radius 3; pin 1 1 0 3; pin 1 1 1 0;");
@@ -175,6 +186,16 @@ final class PromisedAnswers extends Sentences {
             is(5, h.count(2));
             is(0, h.count(4));
         });
+        test("when it is at rest then", () -> {
+            // Even TICKS: the bead rolls to 1 2, and on to 2 2 with its four images; odd ones: to 1 0, and on to 2 0 with two.
+            KaleidoscopeBox even = box("angle 90 radius 2; down 0; pin 2 1 1 1; bead 1 1 0 1;");
+            is(0, even.bestTurn(1));
+            KaleidoscopeBox odd = box("angle 90 radius 2; down 0; pin 2 1 1 1; glass 3 1 1 0;");
+            odd.tick();
+            odd.take(1);
+            odd.add(1, 1, 1, 0, 1);
+            is(1, odd.bestTurn(1));
+        });
         test("of several the least", () -> {
             is(0, new KaleidoscopeBox().bestTurn(9));
             is(0, box("angle 90 radius 1; down 5; pin 3 1 1 1;").bestTurn(3));
@@ -214,10 +235,18 @@ final class PromisedAnswers extends Sentences {
             // Two beads of the same looks that change places.
             String beads = "angle 180 radius 1; down 4; bead 1 1 -1 0; bead 1 1 -1 1;";
             KaleidoscopeBox swap = box(beads);
-            is(turnsByHand(beads, 4), swap.period(4));
-            is(turnsByHand(beads, 1), swap.period(1));
+            is(turnsByHand(() -> box(beads), 4), swap.period(4));
+            is(turnsByHand(() -> box(beads), 1), swap.period(1));
             is(0, swap.count(4));
             is(4, swap.count(2));
+        });
+        test("and made ticks until it is at rest, each time", () -> {
+            // TICKS go on from what they are now: a bead rolls another way behind an odd number.
+            String beads = "angle 180 radius 1; down 4; bead 1 1 -1 0; bead 1 1 -1 1; pin 1 1 1 0;";
+            is(16, turnsByHand(() -> box(beads), 3));
+            is(16, box(beads).period(3));
+            is(8, turnsByHand(() -> late(beads), 3));
+            is(8, late(beads).period(3));
         });
         test("(TICKS need not be)", () -> {
             KaleidoscopeBox b = box("angle 90 radius 2; down 0; glass 1 1 2 0;");
@@ -246,10 +275,10 @@ final class PromisedAnswers extends Sentences {
     }
 
     /** The number of turns till all is as it was, by acts alone; 60 at most. */
-    private static int turnsByHand(String setup, int steps) {
-        String first = lying(box(setup));
+    private static int turnsByHand(Supplier<KaleidoscopeBox> start, int steps) {
+        String first = lying(start.get());
         for (int turns = 1; turns <= 60; turns++) {
-            KaleidoscopeBox b = box(setup);
+            KaleidoscopeBox b = start.get();
             for (int i = 0; i < turns; i++) {
                 b.turn(steps);
                 b.settle();
@@ -267,6 +296,15 @@ final class PromisedAnswers extends Sentences {
             text.append(' ').append(b.chip(chip, 3)).append(' ').append(b.chip(chip, 4));
         }
         return text.toString();
+    }
+
+    /** A tick later: a glass has fallen from 1 1, and been taken out. */
+    private static KaleidoscopeBox late(String setup) {
+        KaleidoscopeBox b = box(setup);
+        int glass = b.add(0, 1, 1, 1, 1);
+        b.settle();
+        b.take(glass);
+        return b;
     }
 
     private void noPeriod() {
@@ -290,7 +328,7 @@ final class PromisedAnswers extends Sentences {
     }
 
     private void periodIs(int turns, String setup, int steps) {
-        is(turns, turnsByHand(setup, steps));
+        is(turns, turnsByHand(() -> box(setup), steps));
         is(turns <= 48 ? turns : NONE, box(setup).period(steps));
     }
 
@@ -480,6 +518,39 @@ final class PromisedAnswers extends Sentences {
             undone(b -> b.cover(1, false));
             undone(b -> b.setKeep(1));
         });
+        test("everything", () -> {
+            KaleidoscopeBox b = thirty();
+            b.settle();
+            is(12, b.chip(29, 5));
+            b.undo();
+            lastChipIs(b, 5, -5, 1);
+            b.paint(29, 9);
+            b.take(29);
+            b.undo();
+            lastChipIs(b, 9, -5, 1);
+            b.undo();
+            lastChipIs(b, 5, -5, 1);
+            b.undo();
+            lastChipIs(b, 5, -6, 0);
+            b.undo();
+            fails(INDEX, () -> b.chip(29, 0));
+        });
+    }
+
+    /** As many chips as can come; the last one is a glass that has moved once. */
+    private static KaleidoscopeBox thirty() {
+        KaleidoscopeBox b = box(SetupSentences.pins(29));
+        b.add(0, 5, 7, -6, 6);
+        b.tick();
+        return b;
+    }
+
+    private void lastChipIs(KaleidoscopeBox b, int colour, int x, int moves) {
+        int[] due = {0, colour, 7, x, 6, moves};
+        for (int what = 0; what < due.length; what++) {
+            is(due[what], b.chip(29, what));
+        }
+        is(29, b.chipAt(x, 6));
     }
 
     private void save() {
@@ -506,6 +577,16 @@ final class PromisedAnswers extends Sentences {
             is(3, b.errorPosition());
             b.restore(1);
             is(60, b.count(0));
+        });
+        test("Saves everything", () -> {
+            KaleidoscopeBox b = thirty();
+            b.save(1);
+            Due.load(b, SetupSentences.pins(30));
+            is(3, b.chip(29, 0));
+            is(1, b.chip(29, 2));
+            b.restore(1);
+            lastChipIs(b, 5, -5, 1);
+            is(30, b.count(6));
         });
         test("0 or 1; a state that is already saved there is replaced", () -> {
             KaleidoscopeBox b = box(60, 2);

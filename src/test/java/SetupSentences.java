@@ -347,6 +347,10 @@ final class SetupSentences extends Sentences {
         at("SETUPS");
         test("4 for the first word of a 31st chip.", () -> {
             right(pins(30), 30);
+            int[] last = {0, 9, 8, -6, 6, 0};
+            for (int what = 0; what < last.length; what++) {
+                is(last[what], box(pins(29) + "glass 9 8 -6 6;").chip(29, what));
+            }
             wrong(pins(31), 4, pins(30).length());
             for (String kind : new String[] {"glass", "bead", "bubble", "pin"}) {
                 wrong(pins(30) + "  " + kind, 4, pins(30).length() + 2);
