@@ -27,7 +27,7 @@ final class CellSentences extends Sentences {
             }
             is(511, b.account(0));
             KaleidoscopeBox texts = new KaleidoscopeBox();
-            for (int call = 1; call < 512; call += 2) {
+            for (int call = 1; call < 511; call += 2) {
                 texts.appendText(0x3B3B3B3B);
                 texts.load();
             }

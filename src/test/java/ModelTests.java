@@ -90,7 +90,7 @@ public final class ModelTests {
         if (random.nextInt(60) == 0) {
             return FAR[random.nextInt(FAR.length)];
         }
-        int radius = box.count(1);
+        int radius = model.count(1);
         boolean isPlace = name.equals("add") && index > 2 || name.equals("mapped") && index > 0
             || List.of("chipAt", "depth", "colour", "brightness", "reflections", "source", "images", "regionSize")
                 .contains(name);
@@ -101,7 +101,7 @@ public final class ModelTests {
         }
         boolean isChip = index == 0 && List.of("chip", "take", "push", "paint", "restsAt").contains(name);
         if (isChip) {
-            return random.nextInt(box.count(5) + 2) - (random.nextInt(10) == 0 ? 1 : 0);
+            return random.nextInt(model.count(5) + 2) - (random.nextInt(10) == 0 ? 1 : 0);
         }
         return switch (name) {
             case "truncateText" -> random.nextInt(12) - 1;
@@ -118,6 +118,9 @@ public final class ModelTests {
     }
 
     private boolean same(Method m, Object... args) throws Exception {
+        if (made == CALLS) {
+            return true;
+        }
         made++;
         String got = answer(m, box, args);
         String due = answer(Model.class.getDeclaredMethod(m.getName(), m.getParameterTypes()), model, args);
