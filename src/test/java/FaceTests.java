@@ -82,6 +82,7 @@ public final class FaceTests {
             DUE.is("constructor " + c, 1, Modifier.isPublic(c.getModifiers()) && c.getParameterCount() == 0 ? 1 : 0);
         }
         for (Class<?> inside : face.getDeclaredClasses()) {
+            DUE.is("static " + inside, 1, Modifier.isStatic(inside.getModifiers()) ? 1 : 0);
             DUE.is("not public " + inside, 0, inside.getModifiers() & (Modifier.PUBLIC | Modifier.PROTECTED));
         }
         fields(face);
@@ -131,6 +132,11 @@ public final class FaceTests {
         for (Method m : face.getDeclaredMethods()) {
             boolean clashes = Modifier.isPrivate(m.getModifiers()) && names.contains(m.getName());
             DUE.is("a private method with a public one's name: " + m, 0, clashes ? 1 : 0);
+        }
+        for (Class<?> inside : face.getDeclaredClasses()) {
+            for (Method m : inside.getDeclaredMethods()) {
+                DUE.is("a method inside with a public one's name: " + m, 0, names.contains(m.getName()) ? 1 : 0);
+            }
         }
     }
 }
